@@ -38,7 +38,8 @@ public final class RungByADrum {
         for (int i = 0; i < FIRST_TEXT.length(); i++) {
             text.append(FIRST_TEXT.charAt(i));
         }
-        lay();
+        text.readInto(told);
+        layTold();
         text.clear();
     }
 
@@ -65,14 +66,7 @@ public final class RungByADrum {
         if (text.readInto(told) != NONE || !told.canBeLaid()) {
             return NO;
         }
-        Tower before = tower;
-        tower = told;
-        told = before;
-        drum.startWith(tower);
-        Arrays.fill(wanted, 0);
-        heardCount = 0;
-        undoable.clear();
-        kept.clear();
+        layTold();
         return tower.tuneRows;
     }
 
@@ -98,6 +92,18 @@ public final class RungByADrum {
 
     public int pins(int row) {
         return isRow(row) ? drum.pins[row] : BAD;
+    }
+
+    private void layTold() {
+        // the two change places, so that no tower has to be made anew
+        Tower before = tower;
+        tower = told;
+        told = before;
+        drum.startWith(tower);
+        Arrays.fill(wanted, 0);
+        heardCount = 0;
+        undoable.clear();
+        kept.clear();
     }
 
     private boolean isBell(int b) {

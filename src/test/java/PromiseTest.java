@@ -27,6 +27,8 @@ public final class PromiseTest {
         winter();
         keepAndBack();
         count();
+        laidAnew();
+        fullTower();
         due.end();
     }
 
@@ -658,6 +660,7 @@ public final class PromiseTest {
         ringersAre(8, "[ad][af][ah][bc][cf][ch][be][de][eh][bg][dg][fg]", 2);
         ringersAre(8, "[abc][def][gh][ad]", 3);
         RungByADrum x = laid("b0,1;b0,1;n2;t[ab];");
+        due.is("pins as they are", x.ringers(), 2);
         x.pin(0, 1, false);
         due.is("pins as they are", x.ringers(), 1);
     }
@@ -751,6 +754,11 @@ public final class PromiseTest {
         x.pin((int) (draw % 32), 0, true);
         due.is("the only pin", x.winter(9999, 1, 0), 0);
         due.is("all rows", x.winter(9999, 1, 1), 32);
+        // z 1, k 1: x = 14071
+        x = laid("b0,1;n32;");
+        x.pin((int) (14071L * 14071L % 65521 / 8 % 32), 0, true);
+        due.is("not by the first draw", x.winter(1, 1, 0), 1);
+        due.is("by the second draw", x.winter(1, 2, 0), 0);
         due.is("60 draws of a bare drum", laid("b0,1;n32;").winter(9999, 60, 1), 32);
         due.is("z -1", x.winter(-1, 1, 0), BAD);
         due.is("z 10000", x.winter(10000, 1, 0), BAD);
@@ -828,5 +836,78 @@ public final class PromiseTest {
             x.shift(0);
         }
         due.is("8 can be undone", x.count(7), 8);
+    }
+
+    private static void laidAnew() {
+        due.part("promise 5, nothing of an earlier text is left");
+        RungByADrum x = new RungByADrum();
+        // twice each, lest what stays of one text is hidden by another
+        for (int i = 0; i < 4; i++) {
+            tell(x, "b0,1;b1,1;b2,2;n3;r6;t[abc][ab][bc];");
+            due.is("lay", x.lay(), 3);
+            due.is("harsh", x.harsh(), 5);
+            due.is("canon", x.canon(1), 4 + 4 + 3);
+            if (i % 2 == 1) {
+                x.lay();
+            }
+            tell(x, "b0,2;b4,1;b7,1;t[abc];");
+            due.is("lay", x.lay(), 1);
+            due.is("harsh", x.harsh(), 0);
+            due.is("canon", x.canon(1), 0);
+            due.is("ROWS", x.count(1), 16);
+            due.is("R", x.count(2), 1);
+            due.is("silence", x.silence(), 15);
+            due.is("pins(1)", x.pins(1), 0);
+        }
+    }
+
+    private static void fullTower() {
+        due.part("the most bells and rows");
+        RungByADrum x = laid("b0,2;b1,2;b2,2;b3,2;b4,2;b5,2;b6,2;b40,2;n32;r6;t(([abcdefgh])8)4;");
+        due.is("pins of a bell", x.bell(7, 2), 32);
+        due.is("pins", x.count(3), 256);
+        due.is("turn", x.turn(), 255);
+        due.is("turnBack", x.turnBack(), 255);
+        due.is("turnBack", x.turnBack(), 0);
+        due.is("undo", x.undo(), 2);
+        due.is("undo", x.undo(), 1);
+        due.is("undo", x.undo(), 0);
+        // two hammers of 6 rows' need ring in 2 rows of 7: of the first 32 in 10, of rows 256 to 287 in 9
+        due.is("RING", x.whole(0), 80);
+        due.is("MISSED", x.whole(1), 176);
+        due.is("FOR EVER", x.whole(2), 256 - 8 * 9);
+        due.is("silence", x.silence(), 0);
+        due.is("again", x.again(), 1);
+        // 0 to 6: six twos 1 apart, five 2 apart, one 6 apart; 40 with 0 to 6: apart 40 - t modulo 12 is 4 down to 10
+        int ill = 6 + 5 + 1 + illWith40();
+        due.is("harsh", x.harsh(), 32 * ill);
+        due.is("canon", x.canon(0), 1);
+        due.is("canon", x.canon(1), 32 * 2 * ill);
+        due.is("changes", x.changes(0), 256);
+        due.is("letters", x.letters(), 16);
+        due.is("ringers", x.ringers(), 8);
+        due.is("stood", x.stood(), -1);
+        due.is("hear", x.hear(255), 1);
+        due.is("stood", x.stood(), -1);
+        due.is("melody", x.melody(2), 0);
+        due.is("octaves", x.octaves(), 1);
+        due.is("shift", x.shift(31), 255);
+        due.is("pin", x.pin(31, 7, false), 7);
+        due.is("shift", x.shift(31), 255);
+        due.is("pins(30)", x.pins(30), 127);
+        due.is("7 draws, each of a row with pins", x.winter(0, 7, 0), 248);
+        due.is("keep", x.keep(), 1);
+        due.is("back", x.back(), 0);
+        due.is("want", x.want(31, 255), 0);
+        due.is("changes", x.changes(0), 255 - 8);
+    }
+
+    private static int illWith40() {
+        int ill = 0;
+        for (int tone = 0; tone <= 6; tone++) {
+            int apart = (40 - tone) % 12;
+            ill += apart == 1 || apart == 2 || apart == 6 || apart == 10 || apart == 11 ? 1 : 0;
+        }
+        return ill;
     }
 }
