@@ -655,8 +655,8 @@ public final class PromiseTest {
         ringersAre(6, "[ab][bc][cd][de][ef][af]", 2);
         ringersAre(6, "[ab][bc][cd][de][ae][af][bf][cf][df][ef]", 4);
         ringersAre(7, "[ab][bc][cd][de][ef][fg][ag]", 3);
-        // bells that a first fit in their order would part badly: a-f b-e and so on
-        ringersAre(6, "[ad][af][bc][bf][ce][de]", 2);
+        // in their order, each to the first who can, these would need three and four
+        ringersAre(6, "[ad][af][bc][cf][be][de]", 2);
         ringersAre(8, "[ad][af][ah][bc][cf][ch][be][de][eh][bg][dg][fg]", 2);
         ringersAre(8, "[abc][def][gh][ad]", 3);
         RungByADrum x = laid("b0,1;b0,1;n2;t[ab];");

@@ -17,6 +17,7 @@ public final class SoundEdgeTest {
         againFrom1ToN();
         againRound();
         illTones();
+        illOfAnEarlierText();
         harshTwosOfOneRow();
         whatOfACanon();
         canonOfTwoRows();
@@ -212,6 +213,23 @@ public final class SoundEdgeTest {
                 due.is(high + ", " + low, laid("b" + high + ",1;b" + low + ",1;t[ab];").harsh(), twos);
                 due.is("canon " + low + ", " + high, laid("b" + low + ",1;b" + high + ",1;n2;tab;").canon(1), 2 * twos);
             }
+        }
+    }
+
+    private static void illOfAnEarlierText() {
+        due.part("16 TONES as LAID now, none of an earlier TEXT");
+        RungByADrum x = new RungByADrum();
+        for (int lays = 1; lays <= 3; lays++) {
+            Tell.text(due, x, "b0,1;b1,1;b2,1;n2;t[abc][abc];");
+            for (int i = 0; i < lays; i++) {
+                x.lay();
+            }
+            due.is("harsh", x.harsh(), 6);
+            due.is("canon", x.canon(1), 12);
+            Tell.text(due, x, "b0,1;b4,1;b7,1;n2;t[abc][abc];");
+            x.lay();
+            due.is("harsh", x.harsh(), 0);
+            due.is("canon", x.canon(1), 0);
         }
     }
 

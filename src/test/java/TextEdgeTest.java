@@ -316,10 +316,17 @@ public final class TextEdgeTest {
         due.is("ROWS", Tell.laid(due, "b0,1;").count(1), 16);
         layIs("b0,1;t" + ".".repeat(16) + ";", 16);
         layIs("b0,1;t" + ".".repeat(17) + ";", NO);
-        RungByADrum x = Tell.laid(due, "b0,1;n3;");
-        Tell.text(due, x, "b0,1;");
-        x.lay();
-        due.is("16 again behind another text", x.count(1), 16);
+        RungByADrum x = new RungByADrum();
+        for (int lays = 1; lays <= 3; lays++) {
+            Tell.text(due, x, "b0,1;n3;");
+            for (int i = 0; i < lays; i++) {
+                x.lay();
+            }
+            due.is("as told", x.count(1), 3);
+            Tell.text(due, x, "b0,1;");
+            x.lay();
+            due.is("16 again behind another text", x.count(1), 16);
+        }
     }
 
     private static void restFrom0To6() {
@@ -339,11 +346,16 @@ public final class TextEdgeTest {
         due.is("turn", x.turn(), 1);
         due.is("turn", x.turn(), 0);
         due.is("turn", x.turn(), 1);
-        Tell.text(due, x, "b0,1;r6;");
-        x.lay();
-        Tell.text(due, x, "b0,1;");
-        x.lay();
-        due.is("1 again behind another text", x.count(2), 1);
+        for (int lays = 1; lays <= 3; lays++) {
+            Tell.text(due, x, "b0,1;r6;");
+            for (int i = 0; i < lays; i++) {
+                x.lay();
+            }
+            due.is("as told", x.count(2), 6);
+            Tell.text(due, x, "b0,1;");
+            x.lay();
+            due.is("1 again behind another text", x.count(2), 1);
+        }
     }
 
     private static void theLastSuchCounts() {

@@ -299,6 +299,9 @@ public final class TunesEdgeTest {
         // a round of seven needs three
         due.is("a round of odd", laid(EIGHT + "t[ab][bc][cd][de][ef][fg][ag];").ringers(), 3);
         due.is("a round of even", laid(EIGHT + "t[ab][bc][cd][de][ef][fg][gh][ah];").ringers(), 2);
+        // taken one behind the other, each to the first who can, they would need three and four
+        due.is("two, though not at first", laid(EIGHT + "t[ad][af][bc][cf][be][de];").ringers(), 2);
+        due.is("two, though not at first", laid(EIGHT + "t[ad][af][ah][bc][cf][ch][be][de][eh][bg][dg][fg];").ringers(), 2);
         // all twos of eight
         RungByADrum x = laid(EIGHT + "n32;");
         int row = 0;
