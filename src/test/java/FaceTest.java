@@ -53,7 +53,13 @@ public final class FaceTest {
         Constructor<?>[] made = face.getDeclaredConstructors();
         due.holds("one public constructor without parameters", made.length == 1
                 && made[0].getParameterCount() == 0 && made[0].getModifiers() == Modifier.PUBLIC);
+        holdsNoStaticState(due, face);
         for (Class<?> inner : face.getDeclaredClasses()) {
+            holdsNoStaticState(due, inner);
+            for (Method m : inner.getDeclaredMethods()) {
+                due.holds(m + " does not bear a public name", !Modifier.isPrivate(m.getModifiers())
+                        || !publicNames.contains(m.getName()));
+            }
             due.holds(inner + " is static and not public", Modifier.isStatic(inner.getModifiers())
                     && !Modifier.isPublic(inner.getModifiers()) && !Modifier.isProtected(inner.getModifiers()));
         }
@@ -62,5 +68,19 @@ public final class FaceTest {
         due.is("FULL", RungByADrum.FULL, -3);
         due.is("NONE", RungByADrum.NONE, -4);
         due.end();
+    }
+
+    /** Static fields are constants; of others there are some twenty at most. */
+    private static void holdsNoStaticState(Due due, Class<?> holder) {
+        int many = 0;
+        for (Field f : holder.getDeclaredFields()) {
+            if (Modifier.isStatic(f.getModifiers())) {
+                due.holds(f + " is a constant", Modifier.isFinal(f.getModifiers())
+                        && (f.getType().isPrimitive() || f.getType() == String.class));
+            } else {
+                many++;
+            }
+        }
+        due.holds("twenty fields at most: " + holder, many <= 20);
     }
 }

@@ -515,6 +515,10 @@ public final class TextEdgeTest {
         faultIs("t((((.)2)2)2)2;", 0);
         faultIs("t(((((.)2)2)2)2)2;", 0);
         faultIs("t.(.(.(.(.)2)2)2)2;", 0);
+        // the item ends right behind the ( that is one too many, or there is nothing behind it
+        faultIs("t((((;", 0);
+        faultIs("t((((", 0);
+        faultIs(TWO + "ta(((([ab];", 10);
         // one behind the other they are not deeper
         faultIs("t(.)2(.)2(.)2(.)2(.)2;", NONE);
         faultIs("t(((.)2(.)2)2(.)2)2;", NONE);
